@@ -5,6 +5,7 @@ public final class PromiseTest {
     private static final int CORNER = 1 + 2 + 16;
 
     public static void main(String[] args) {
+        constants();
         newObject();
         table();
         cut();
@@ -73,6 +74,13 @@ public final class PromiseTest {
                 Due.same(when + ", dark(" + x + ", " + y + ")", p.dark(x, y), c == '.' ? 0 : c - '0');
             }
         }
+    }
+
+    private static void constants() {
+        Due.same("NONE", PotatoPrints.NONE, -1);
+        Due.same("BAD", PotatoPrints.BAD, -2);
+        Due.same("NO", PotatoPrints.NO, -3);
+        Due.same("FULL", PotatoPrints.FULL, -4);
     }
 
     private static void newObject() {
@@ -171,6 +179,8 @@ public final class PromiseTest {
         p.dip(9);
         Due.same("darker", p.print(0, 0, 2, 3, 0), 3);
         sheet("darker", p, "", "", "", "....99..", ".....9..");
+        p.dip(9);
+        Due.same("as dark is not darker", p.print(0, 0, 2, 3, 0), 0);
         PotatoPrints q = withCorner(12);
         Due.same("beyond is lost: 3 of 3 at 7, 7", q.print(0, 0, 7, 7, 0), 0);
         Due.same("beyond is lost: 1 of 3 stays", q.print(0, 0, 7, 7, 3), 1);
@@ -228,6 +238,25 @@ public final class PromiseTest {
         sheet("eight prints undone", p);
         Due.same("the dip is forgotten", p.undo(), PotatoPrints.NO);
         Due.same("paint stays", p.count(1), 12);
+        undoOfTheLastEight();
+    }
+
+    private static void undoOfTheLastEight() {
+        PotatoPrints p = new PotatoPrints();
+        p.cut(0, 8);
+        p.dip(12);
+        for (int x = 0; x < 8; x++) {
+            p.print(0, 0, x, 0, 0);
+        }
+        p.print(0, 0, 0, 1, 0);
+        sheet("nine prints", p, "99998765", "4");
+        String row = "99998765";
+        for (int x = 8; x > 0; x--) {
+            p.undo();
+            sheet("all but " + x, p, row.substring(0, x));
+        }
+        Due.same("the first print stays", p.undo(), PotatoPrints.NO);
+        Due.same("with its paint", p.count(1), 11);
     }
 
     private static void type() {
@@ -284,6 +313,11 @@ public final class PromiseTest {
         Due.same("paint", p.count(1), 0);
         sheet("prints in order, none without paint", p, "22", "2", "", "", "", "", "", "....3");
         Due.same("no answer of read is refused", p.status(1), 0);
+        Due.write(p, "table 7;potato 0 1 2 4 8;potato 1 0 0 12 0;print 2 1 5 3 1;");
+        Due.same("read() again", p.read(), 4);
+        Due.same("rows are cells", p.cut(0, 0), 33825);
+        // Columns 2 and 3 of row 2 print in columns 0 and 1 of it, and turned once in column 1 of rows 0 and 1.
+        sheet("a print of another kind", p, "", "", "", "......4", "......4");
     }
 
     private static void readFaults() {
@@ -297,6 +331,10 @@ public final class PromiseTest {
         reads("table 5;print 0 0 0", -29);
         reads("tabl", -10);
         reads("tables 5;", -10);
+        reads("fable 5;", -10);
+        reads("table 5;cotato 0 1 2 3 4;", -18);
+        reads("table 5;frint 0 0 0 0 0;", -18);
+        reads("table 5;prin 0 0 0 0 0;", -18);
         reads("Table 5;", -10);
         reads("tablE 5;", -10);
         reads("potato 0 1 1 1 1;table 5;", -10);
@@ -478,6 +516,7 @@ public final class PromiseTest {
         Due.same("dips of 5 for 10", p.dips(0, 12, 8, 10), 2);
         Due.same("dips of 5 for 1", p.dips(0, 12, 8, 1), 1);
         Due.same("dips of 1 for 60", p.dips(0, 9, 9, 60), 60);
+        Due.same("dips by 1 at least", p.dips(0, 12, 1, 60), 5);
         Due.same("dips for none", p.dips(0, 8, 9, 0), 0);
         Due.same("dips of none", p.dips(0, 8, 9, 1), PotatoPrints.NONE);
         Due.same("dips for 61", p.dips(0, 8, 9, 61), PotatoPrints.BAD);
@@ -503,7 +542,7 @@ public final class PromiseTest {
     private static void gap() {
         PotatoPrints p = new PotatoPrints();
         // 7: one print whatever the gap; 11: 4 3 4; 13: 4 5 4, or 13 less 12 by 0; 14: 4 1 4 1 4; 15: 4 7 4.
-        int[][] some = {{4, 0}, {7, 0}, {8, 0}, {9, 1}, {10, 2}, {11, 3}, {12, 0}, {13, 5}, {14, 1}, {15, 7}, {99, 1}};
+        int[][] some = {{4, 0}, {7, 0}, {8, 0}, {9, 1}, {10, 2}, {11, 3}, {12, 0}, {13, 5}, {14, 1}, {15, 7}, {17, 9}, {99, 1}};
         for (int[] s : some) {
             Due.same("gap(" + s[0] + ")", p.gap(s[0]), s[1]);
         }
@@ -536,6 +575,27 @@ public final class PromiseTest {
             Due.same("a bad hit", q.hit(b[0], b[1]), PotatoPrints.BAD);
         }
         statuses("none is not refused", q, 4, 0, 0);
+        hitAtTheEdges();
+    }
+
+    private static void hitAtTheEdges() {
+        int[][] cells = {{7, 3}, {3, 7}, {0, 3}, {3, 0}};
+        for (int[] c : cells) {
+            PotatoPrints p = new PotatoPrints();
+            p.cut(0, 8);
+            p.cut(1, 0x0660);
+            p.dip(1);
+            p.print(0, 0, c[0], c[1], 0);
+            Due.same("one cell of 1 is dark", p.count(0), 1);
+            Due.same("the middle comes not to the rim", p.hit(1, 0), PotatoPrints.NONE);
+            Due.same("nor anywhere", p.hit(1, 1), PotatoPrints.NONE);
+        }
+        PotatoPrints p = new PotatoPrints();
+        p.cut(0, 65535);
+        p.dip(9);
+        p.print(0, 0, 0, 0, 0);
+        Due.same("all sixteen", p.hit(0, 0), 16);
+        Due.same("at the first place", p.hit(0, 1), 0);
     }
 
     private static void want() {
@@ -582,6 +642,15 @@ public final class PromiseTest {
         p.want(0, 7);
         Due.same("beyond the sheet for the rest", p.cover(0, 0), 1);
         Due.same("cell 0 of column 0, turned twice", p.cover(0, 1), 240);
+        p.forget(0);
+        p.want(0, 0);
+        Due.same("the first place", p.cover(1, 1), 0);
+        p.cut(0, 1);
+        Due.same("turned three times at the first place", p.cover(0, 1), 300);
+        p.cut(0, 8);
+        Due.same("not turned at the first place", p.cover(0, 1), 0);
+        p.cut(0, 1 << 15);
+        Due.same("turned once at the first place", p.cover(0, 1), 100);
         int[][] bad = {{-1, 0}, {2, 0}, {0, -1}, {0, 2}};
         for (int[] b : bad) {
             Due.same("a bad cover", p.cover(b[0], b[1]), -10);
@@ -676,6 +745,7 @@ public final class PromiseTest {
         Due.same("no first", p.which(0, 1), PotatoPrints.NONE);
         Due.same("none of a potato of nothing", p.which(1, 0), 0);
         p.forget(1);
+        Due.same("forgotten is not seen", p.which(0, 0), 256);
         p.seen(7, 6, 0);
         Due.same("all of a potato of nothing", p.which(1, 0), 256);
         Due.same("its first", p.which(1, 1), 0);
@@ -698,6 +768,12 @@ public final class PromiseTest {
         Due.same("two alike: the first cell", p.look(0), 0);
         p.seen(6, 7, 0);
         Due.same("no print", p.look(0), PotatoPrints.NONE);
+        PotatoPrints q = new PotatoPrints();
+        q.cut(0, 3);
+        q.seen(6, 7, 1);
+        q.seen(5, 7, 0);
+        q.seen(6, 6, 0);
+        Due.same("two of four come on the last cell", q.look(0), 63);
         Due.same("look(2)", p.look(2), PotatoPrints.BAD);
         Due.same("look(-1)", p.look(-1), PotatoPrints.BAD);
         statuses("look", p, 2, 0, 0);
@@ -768,6 +844,12 @@ public final class PromiseTest {
         chance(p, 0, 0, 3, 3, 0, 1);
         p.dip(0);
         chance(p, 0, 5, 5, 3, 0, 1);
+        chance(p, 0, 5, 5, 0, 0, 1);
+        p.dip(1);
+        chance(p, 5, 5, 0, 4, 1, 1);
+        p.cut(0, 8);
+        chance(p, 0, 1, 3, 0, 7, 10);
+        p.cut(0, 1);
         p.dip(9);
         Due.same("at the edge", p.slips(0, 0, 4, 7, 1, 3, 63), 1);
         Due.same("what slips beyond is lost", p.part(0), 7);
@@ -806,6 +888,8 @@ public final class PromiseTest {
         Due.same("from the sheet that is there", p.sheets(0, 0), 27);
         Due.same("the first on the same cells", p.sheets(0, 1), 27);
         Due.same("all stays", p.digest(), ahead);
+        p.print(0, 0, 0, 0, 3);
+        Due.same("and on the first cell", p.sheets(0, 0), 27 + 24);
         int[][] bad = {{-1, 0}, {1000000, 0}, {0, -1}, {0, 31}, {LEAST, 1}, {MOST, 1}};
         for (int[] b : bad) {
             Due.same("bad sheets", p.sheets(b[0], b[1]), PotatoPrints.BAD);
@@ -832,10 +916,14 @@ public final class PromiseTest {
         p.undo();
         p.cut(0, 5);
         p.cut(1, 6);
+        p.forget(0);
+        p.forget(1);
         p.want(0, 0);
         p.seen(0, 0, 0);
-        p.dip(12);
-        p.print(0, 1, 4, 4, 0);
+        for (int i = 0; i < 8; i++) {
+            p.dip(12 - i);
+            p.print(0, 1, 4, i, 0);
+        }
         Due.same("from(0)", p.from(0), 1);
         Due.same("all as it was", p.digest(), kept);
         Due.same("it can be undone from there", p.undo(), 9);

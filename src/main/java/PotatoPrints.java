@@ -645,11 +645,9 @@ public final class PotatoPrints {
 
         private static int mirrored(int cells) {
             int shape = 0;
-            for (int y = 0; y < SIDE; y++) {
-                for (int x = 0; x < SIDE; x++) {
-                    if (isUp(cells, x, y)) {
-                        shape |= bitOf(3 - x, y);
-                    }
+            for (int i = 0; i < CELLS; i++) {
+                if ((cells >>> i & 1) == 1) {
+                    shape |= bitOf(3 - i % SIDE, i / SIDE);
                 }
             }
             return shape;
@@ -657,11 +655,9 @@ public final class PotatoPrints {
 
         private static int turnedOnce(int cells) {
             int shape = 0;
-            for (int y = 0; y < SIDE; y++) {
-                for (int x = 0; x < SIDE; x++) {
-                    if (isUp(cells, x, y)) {
-                        shape |= bitOf(3 - y, x);
-                    }
+            for (int i = 0; i < CELLS; i++) {
+                if ((cells >>> i & 1) == 1) {
+                    shape |= bitOf(3 - i / SIDE, i % SIDE);
                 }
             }
             return shape;
@@ -684,11 +680,11 @@ public final class PotatoPrints {
         /** The cells of the sheet that a shape comes on; what comes beyond it is lost. */
         private static long placed(int shape, int column, int row) {
             long cells = 0;
-            for (int y = 0; y < SIDE; y++) {
-                for (int x = 0; x < SIDE; x++) {
-                    if (isUp(shape, x, y) && column + x < SHEET_SIDE && row + y < SHEET_SIDE) {
-                        cells |= 1L << SHEET_SIDE * (row + y) + column + x;
-                    }
+            for (int i = 0; i < CELLS; i++) {
+                int x = column + i % SIDE;
+                int y = row + i / SIDE;
+                if ((shape >>> i & 1) == 1 && x < SHEET_SIDE && y < SHEET_SIDE) {
+                    cells |= 1L << SHEET_SIDE * y + x;
                 }
             }
             return cells;

@@ -540,9 +540,10 @@ public final class PotatoPrints {
         return NONE;
     }
 
+    // Asked where no single print covers all, so one that covers none is in no such two.
     private int firstOfTwoCovering(long wanted) {
         for (int i = 0; i < PLACINGS; i++) {
-            if (firstCovering(wanted & ~placed[i]) != NONE) {
+            if ((wanted & placed[i]) != 0 && firstCovering(wanted & ~placed[i]) != NONE) {
                 return placingNumber(i);
             }
         }

@@ -54,28 +54,6 @@ public final class PromiseTest {
         return p;
     }
 
-    private static void counts(String when, PotatoPrints p, int... want) {
-        for (int what = 0; what < want.length; what++) {
-            Due.same(when + ", count(" + what + ")", p.count(what), want[what]);
-        }
-    }
-
-    private static void statuses(String when, PotatoPrints p, int bad, int no, int full) {
-        Due.same(when + ", status(0)", p.status(0), bad);
-        Due.same(when + ", status(1)", p.status(1), no);
-        Due.same(when + ", status(2)", p.status(2), full);
-    }
-
-    /** Each cell of a sheet, by rows, as figures; '.' is 0. */
-    private static void sheet(String when, PotatoPrints p, String... rows) {
-        for (int y = 0; y < 8; y++) {
-            for (int x = 0; x < 8; x++) {
-                char c = y < rows.length && x < rows[y].length() ? rows[y].charAt(x) : '.';
-                Due.same(when + ", dark(" + x + ", " + y + ")", p.dark(x, y), c == '.' ? 0 : c - '0');
-            }
-        }
-    }
-
     private static void constants() {
         Due.same("NONE", PotatoPrints.NONE, -1);
         Due.same("BAD", PotatoPrints.BAD, -2);
@@ -85,8 +63,8 @@ public final class PromiseTest {
 
     private static void newObject() {
         PotatoPrints p = new PotatoPrints();
-        counts("new", p, 0, 0, 0, 0, 0, 0);
-        statuses("new", p, 0, 0, 0);
+        Due.counts("new", p, 0, 0, 0, 0, 0, 0);
+        Due.statuses("new", p, 0, 0, 0);
         Due.same("new, looks(0, 0)", p.looks(0, 0), 0);
         Due.same("new, looks(1, 0)", p.looks(1, 0), 0);
         Due.same("new, part(0)", p.part(0), 0);
@@ -94,7 +72,7 @@ public final class PromiseTest {
         Due.same("new, from(0)", p.from(0), PotatoPrints.NO);
         Due.same("new, from(1)", p.from(1), PotatoPrints.NO);
         Due.same("new, undo()", p.undo(), PotatoPrints.NO);
-        sheet("new", p);
+        Due.sheet("new", p);
     }
 
     private static void table() {
@@ -108,21 +86,21 @@ public final class PromiseTest {
         p.image(0);
         p.slips(0, 0, 0, 0, 1, 5, 2);
         p.dip(99);
-        counts("ahead of table", p, 3, 4, 1, 1, 2, 1);
+        Due.counts("ahead of table", p, 3, 4, 1, 1, 2, 1);
         Due.same("table(12)", p.table(12), 3);
-        counts("behind table", p, 0, 12, 0, 0, 0, 1);
+        Due.counts("behind table", p, 0, 12, 0, 0, 0, 1);
         Due.same("table cuts nothing, 0", p.looks(0, 0), 0);
         Due.same("table cuts nothing, 1", p.looks(1, 0), 0);
-        sheet("behind table", p);
+        Due.sheet("behind table", p);
         Due.same("the fraction stays", p.part(1), 2);
         Due.same("undo behind table", p.undo(), PotatoPrints.NO);
-        statuses("status stays", p, 1, 1, 0);
+        Due.statuses("status stays", p, 1, 1, 0);
         Due.same("an image stays", p.from(0), 1);
-        counts("from it", p, 3, 4, 1, 1, 2, 1);
+        Due.counts("from it", p, 3, 4, 1, 1, 2, 1);
         for (int bad : new int[] {-1, 13, LEAST, MOST}) {
             Due.same("table(" + bad + ")", p.table(bad), PotatoPrints.BAD);
         }
-        counts("behind a bad table", p, 3, 4, 1, 1, 2, 1);
+        Due.counts("behind a bad table", p, 3, 4, 1, 1, 2, 1);
         Due.same("table(0)", p.table(0), 3);
         Due.same("table(12)", p.table(12), 0);
     }
@@ -156,18 +134,18 @@ public final class PromiseTest {
         Due.same("dip(LEAST)", p.dip(LEAST), PotatoPrints.BAD);
         Due.same("dip(0)", p.dip(0), 3);
         Due.same("dip(0) again", p.dip(0), 0);
-        counts("dips may be undone", p, 0, 0, 0, 0, 4, 0);
+        Due.counts("dips may be undone", p, 0, 0, 0, 0, 4, 0);
     }
 
     private static void print() {
         PotatoPrints p = withCorner(2);
         Due.same("print in the middle", p.print(0, 0, 2, 3, 0), 3);
-        sheet("mirrored", p, "", "", "", "....22..", ".....2..");
+        Due.sheet("mirrored", p, "", "", "", "....22..", ".....2..");
         Due.same("paint is taken", p.count(1), 1);
         Due.same("paler makes nothing darker", p.print(0, 0, 2, 3, 0), 0);
         Due.same("paint is taken all the same", p.count(1), 0);
         Due.same("no paint", p.print(0, 0, 2, 3, 0), PotatoPrints.NO);
-        counts("three may be undone", p, 3, 0, 0, 0, 3, 0);
+        Due.counts("three may be undone", p, 3, 0, 0, 0, 3, 0);
         int[][] bad = {{6, 0, 0, 0, 0}, {-1, 0, 0, 0, 0}, {0, 2, 0, 0, 0}, {0, -1, 0, 0, 0}, {0, 0, 8, 0, 0},
             {0, 0, -1, 0, 0}, {0, 0, 0, 8, 0}, {0, 0, 0, -1, 0}, {0, 0, 0, 0, 4}, {0, 0, 0, 0, -1},
             {MOST, MOST, MOST, MOST, MOST}, {LEAST, LEAST, LEAST, LEAST, LEAST}};
@@ -175,17 +153,17 @@ public final class PromiseTest {
             Due.same("a bad print", p.print(b[0], b[1], b[2], b[3], b[4]), PotatoPrints.BAD);
             Due.same("bad adds", p.adds(b[0], b[1], b[2], b[3], b[4]), PotatoPrints.BAD);
         }
-        statuses("bad ahead of no", p, 24, 1, 0);
+        Due.statuses("bad ahead of no", p, 24, 1, 0);
         p.dip(9);
         Due.same("darker", p.print(0, 0, 2, 3, 0), 3);
-        sheet("darker", p, "", "", "", "....99..", ".....9..");
+        Due.sheet("darker", p, "", "", "", "....99..", ".....9..");
         p.dip(9);
         Due.same("as dark is not darker", p.print(0, 0, 2, 3, 0), 0);
         PotatoPrints q = withCorner(12);
         Due.same("beyond is lost: 3 of 3 at 7, 7", q.print(0, 0, 7, 7, 0), 0);
         Due.same("beyond is lost: 1 of 3 stays", q.print(0, 0, 7, 7, 3), 1);
         Due.same("beyond is lost: 2 of 3 stay", q.print(0, 0, 0, 7, 3), 2);
-        sheet("beyond", q, "", "", "", "", "", "", "", "99.....9");
+        Due.sheet("beyond", q, "", "", "", "", "", "", "", "99.....9");
         Due.same("paint of three", q.count(1), 9);
     }
 
@@ -210,9 +188,9 @@ public final class PromiseTest {
     private static void kind(String name, int kind, int paint, int x, int darker, int left, String... rows) {
         PotatoPrints p = withCorner(paint);
         Due.same(name + ", adds", p.adds(kind, 0, x, 0, 3), darker);
-        sheet(name + " behind adds", p);
+        Due.sheet(name + " behind adds", p);
         Due.same(name, p.print(kind, 0, x, 0, 3), darker);
-        sheet(name, p, rows);
+        Due.sheet(name, p, rows);
         Due.same(name + ", paint left", p.count(1), left);
     }
 
@@ -221,12 +199,12 @@ public final class PromiseTest {
         p.print(0, 0, 0, 0, 3);
         p.print(1, 0, 4, 4, 3);
         Due.same("undo a print", p.undo(), 8);
-        sheet("behind it", p, "99", "9");
+        Due.sheet("behind it", p, "99", "9");
         Due.same("undo another", p.undo(), 9);
-        sheet("behind both", p);
+        Due.sheet("behind both", p);
         Due.same("undo the dip", p.undo(), 0);
         Due.same("no more", p.undo(), PotatoPrints.NO);
-        statuses("undo", p, 0, 1, 0);
+        Due.statuses("undo", p, 0, 1, 0);
         p.dip(12);
         for (int x = 0; x < 8; x++) {
             p.print(0, 0, x, 0, 3);
@@ -235,7 +213,7 @@ public final class PromiseTest {
         for (int i = 0; i < 8; i++) {
             Due.same("undo " + i, p.undo(), 5 + i);
         }
-        sheet("eight prints undone", p);
+        Due.sheet("eight prints undone", p);
         Due.same("the dip is forgotten", p.undo(), PotatoPrints.NO);
         Due.same("paint stays", p.count(1), 12);
         undoOfTheLastEight();
@@ -249,11 +227,11 @@ public final class PromiseTest {
             p.print(0, 0, x, 0, 0);
         }
         p.print(0, 0, 0, 1, 0);
-        sheet("nine prints", p, "99998765", "4");
+        Due.sheet("nine prints", p, "99998765", "4");
         String row = "99998765";
         for (int x = 8; x > 0; x--) {
             p.undo();
-            sheet("all but " + x, p, row.substring(0, x));
+            Due.sheet("all but " + x, p, row.substring(0, x));
         }
         Due.same("the first print stays", p.undo(), PotatoPrints.NO);
         Due.same("with its paint", p.count(1), 11);
@@ -271,7 +249,7 @@ public final class PromiseTest {
         }
         Due.same("the 151st", p.type(' '), PotatoPrints.FULL);
         Due.same("bad ahead of full", p.type(128), PotatoPrints.BAD);
-        statuses("type", p, 5, 0, 1);
+        Due.statuses("type", p, 5, 0, 1);
         Due.same("count(5)", p.count(5), 150);
     }
 
@@ -289,7 +267,7 @@ public final class PromiseTest {
         PotatoPrints p = new PotatoPrints();
         Due.write(p, text);
         Due.same("read of '" + text + "'", p.read(), want);
-        statuses("read is not refused", p, 0, 0, 0);
+        Due.statuses("read is not refused", p, 0, 0, 0);
         Due.same("the text stays", p.count(5), text.length());
     }
 
@@ -311,13 +289,13 @@ public final class PromiseTest {
         Due.same("potato 0", p.cut(0, 0), CORNER);
         Due.same("potato 1", p.cut(1, 0), 1 << 15);
         Due.same("paint", p.count(1), 0);
-        sheet("prints in order, none without paint", p, "22", "2", "", "", "", "", "", "....3");
+        Due.sheet("prints in order, none without paint", p, "22", "2", "", "", "", "", "", "....3");
         Due.same("no answer of read is refused", p.status(1), 0);
         Due.write(p, "table 7;potato 0 1 2 4 8;potato 1 0 0 12 0;print 2 1 5 3 1;");
         Due.same("read() again", p.read(), 4);
         Due.same("rows are cells", p.cut(0, 0), 33825);
         // Columns 2 and 3 of row 2 print in columns 0 and 1 of it, and turned once in column 1 of rows 0 and 1.
-        sheet("a print of another kind", p, "", "", "", "......4", "......4");
+        Due.sheet("a print of another kind", p, "", "", "", "......4", "......4");
     }
 
     private static void readFaults() {
@@ -397,15 +375,15 @@ public final class PromiseTest {
         long ahead = p.digest();
         Due.same("a fault", p.read(), -10 - 22);
         Due.same("all stays", p.digest(), ahead);
-        statuses("a fault is none of the refused", p, 1, 0, 0);
+        Due.statuses("a fault is none of the refused", p, 1, 0, 0);
         Due.write(p, "table 7;");
         Due.same("read", p.read(), 1);
-        counts("all is new", p, 0, 7, 0, 0, 0, 8);
+        Due.counts("all is new", p, 0, 7, 0, 0, 0, 8);
         Due.same("potatoes too", p.looks(0, 0), 0);
         Due.same("the fraction stays", p.part(1), 2);
-        statuses("status stays", p, 1, 0, 0);
+        Due.statuses("status stays", p, 1, 0, 0);
         Due.same("an image stays", p.from(1), 1);
-        counts("from it", p, 3, 8, 1, 1, 2, 8);
+        Due.counts("from it", p, 3, 8, 1, 1, 2, 8);
         Due.write(p, "table 9;potato 0 1 0 0 0;print 0 0 0 0 0;");
         p.read();
         Due.same("what is read is not undone", p.undo(), PotatoPrints.NO);
@@ -422,7 +400,7 @@ public final class PromiseTest {
         for (int[] b : bad) {
             Due.same("a bad dark", p.dark(b[0], b[1]), PotatoPrints.BAD);
         }
-        statuses("dark", p, 6, 0, 0);
+        Due.statuses("dark", p, 6, 0, 0);
     }
 
     private static void looks() {
@@ -465,7 +443,7 @@ public final class PromiseTest {
         p.dip(0);
         Due.same("adds without paint", p.adds(0, 0, 5, 5, 0), PotatoPrints.NO);
         Due.same("adds, bad ahead of no", p.adds(0, 0, 8, 5, 0), PotatoPrints.BAD);
-        statuses("adds", p, 1, 1, 0);
+        Due.statuses("adds", p, 1, 1, 0);
     }
 
     private static void force() {
@@ -489,7 +467,7 @@ public final class PromiseTest {
         for (int[] b : bad) {
             Due.same("a bad force", p.force(b[0], b[1], b[2]), PotatoPrints.BAD);
         }
-        statuses("force", p, 7, 0, 0);
+        Due.statuses("force", p, 7, 0, 0);
     }
 
     private static void fromOne() {
@@ -506,7 +484,7 @@ public final class PromiseTest {
             Due.same("a bad fromOne", p.fromOne(b[0], b[1], b[2]), PotatoPrints.BAD);
             Due.same("bad dips", p.dips(b[0], b[1], b[2], 0), PotatoPrints.BAD);
         }
-        statuses("fromOne", p, 14, 0, 0);
+        Due.statuses("fromOne", p, 14, 0, 0);
     }
 
     private static void dips() {
@@ -521,7 +499,7 @@ public final class PromiseTest {
         Due.same("dips of none", p.dips(0, 8, 9, 1), PotatoPrints.NONE);
         Due.same("dips for 61", p.dips(0, 8, 9, 61), PotatoPrints.BAD);
         Due.same("dips for -1", p.dips(0, 8, 9, -1), PotatoPrints.BAD);
-        statuses("none is not refused", p, 2, 0, 0);
+        Due.statuses("none is not refused", p, 2, 0, 0);
     }
 
     private static void edge() {
@@ -536,7 +514,7 @@ public final class PromiseTest {
         for (int[] b : bad) {
             Due.same("a bad edge", p.edge(b[0], b[1], b[2]), PotatoPrints.BAD);
         }
-        statuses("edge", p, 7, 0, 0);
+        Due.statuses("edge", p, 7, 0, 0);
     }
 
     private static void gap() {
@@ -574,7 +552,7 @@ public final class PromiseTest {
         for (int[] b : bad) {
             Due.same("a bad hit", q.hit(b[0], b[1]), PotatoPrints.BAD);
         }
-        statuses("none is not refused", q, 4, 0, 0);
+        Due.statuses("none is not refused", q, 4, 0, 0);
         hitAtTheEdges();
     }
 
@@ -609,8 +587,8 @@ public final class PromiseTest {
         }
         Due.same("the ninth", p.want(7, 7), PotatoPrints.FULL);
         Due.same("bad ahead of full", p.want(8, 7), PotatoPrints.BAD);
-        counts("want", p, 0, 0, 8, 0, 0, 0);
-        statuses("want", p, 5, 0, 1);
+        Due.counts("want", p, 0, 0, 8, 0, 0, 0);
+        Due.statuses("want", p, 5, 0, 1);
     }
 
     private static void cover() {
@@ -655,7 +633,7 @@ public final class PromiseTest {
         for (int[] b : bad) {
             Due.same("a bad cover", p.cover(b[0], b[1]), -10);
         }
-        statuses("it counts as bad", p, 4, 0, 0);
+        Due.statuses("it counts as bad", p, 4, 0, 0);
     }
 
     private static void shrinks() {
@@ -688,7 +666,7 @@ public final class PromiseTest {
         Due.same("two of the middle", p.gone(1), 1);
         Due.same("gone(2)", p.gone(2), PotatoPrints.BAD);
         Due.same("gone(-1)", p.gone(-1), PotatoPrints.BAD);
-        statuses("gone", p, 2, 0, 0);
+        Due.statuses("gone", p, 2, 0, 0);
     }
 
     private static void seen() {
@@ -702,8 +680,8 @@ public final class PromiseTest {
         }
         Due.same("the ninth", p.seen(7, 7, 0), PotatoPrints.FULL);
         Due.same("bad ahead of full", p.seen(7, 7, 2), PotatoPrints.BAD);
-        counts("seen", p, 0, 0, 0, 8, 0, 0);
-        statuses("seen", p, 7, 0, 1);
+        Due.counts("seen", p, 0, 0, 0, 8, 0, 0);
+        Due.statuses("seen", p, 7, 0, 1);
     }
 
     private static void forget() {
@@ -713,11 +691,11 @@ public final class PromiseTest {
         p.seen(3, 3, 1);
         Due.same("forget(2)", p.forget(2), PotatoPrints.BAD);
         Due.same("forget(-1)", p.forget(-1), PotatoPrints.BAD);
-        counts("ahead", p, 0, 0, 2, 1, 0, 0);
+        Due.counts("ahead", p, 0, 0, 2, 1, 0, 0);
         Due.same("forget(0)", p.forget(0), 2);
-        counts("between", p, 0, 0, 0, 1, 0, 0);
+        Due.counts("between", p, 0, 0, 0, 1, 0, 0);
         Due.same("forget(1)", p.forget(1), 1);
-        counts("behind", p, 0, 0, 0, 0, 0, 0);
+        Due.counts("behind", p, 0, 0, 0, 0, 0, 0);
         Due.same("forget(0) again", p.forget(0), 0);
         Due.same("forget(1) again", p.forget(1), 0);
     }
@@ -756,7 +734,7 @@ public final class PromiseTest {
         for (int[] b : bad) {
             Due.same("a bad which", p.which(b[0], b[1]), -10);
         }
-        statuses("it counts as bad", p, 4, 0, 0);
+        Due.statuses("it counts as bad", p, 4, 0, 0);
     }
 
     private static void look() {
@@ -776,7 +754,7 @@ public final class PromiseTest {
         Due.same("two of four come on the last cell", q.look(0), 63);
         Due.same("look(2)", p.look(2), PotatoPrints.BAD);
         Due.same("look(-1)", p.look(-1), PotatoPrints.BAD);
-        statuses("look", p, 2, 0, 0);
+        Due.statuses("look", p, 2, 0, 0);
     }
 
     private static void bitten() {
@@ -803,7 +781,7 @@ public final class PromiseTest {
         for (int[] b : bad) {
             Due.same("bad bitten", p.bitten(b[0], b[1], b[2], b[3], b[4]), PotatoPrints.BAD);
         }
-        statuses("bitten", p, 10, 0, 0);
+        Due.statuses("bitten", p, 10, 0, 0);
     }
 
     private static void chance(PotatoPrints p, int kind, int n, int c, int cell, long above, long below) {
@@ -866,7 +844,7 @@ public final class PromiseTest {
             Due.same("bad slips", p.slips(b[0], b[1], b[2], b[3], b[4], b[5], b[6]), PotatoPrints.BAD);
             Due.same("the fraction stays", p.part(0), above);
         }
-        statuses("slips", p, 14, 0, 0);
+        Due.statuses("slips", p, 14, 0, 0);
     }
 
     private static void sheets() {
@@ -879,7 +857,7 @@ public final class PromiseTest {
         for (int[] s : some) {
             Due.same("sheets(" + s[0] + ", " + s[1] + ")", p.sheets(s[0], s[1]), s[2]);
         }
-        counts("nothing is changed", p, 0, 0, 0, 0, 0, 0);
+        Due.counts("nothing is changed", p, 0, 0, 0, 0, 0, 0);
         p.dip(5);
         Due.same("by the paint that is there", p.sheets(7, 10), 156);
         p.dip(9);
@@ -905,7 +883,7 @@ public final class PromiseTest {
         p.slips(0, 0, 0, 0, 1, 4, 3);
         Due.same("part(0)", p.part(0), 3);
         Due.same("part(1)", p.part(1), 5);
-        statuses("part", p, 2, 0, 0);
+        Due.statuses("part", p, 2, 0, 0);
     }
 
     private static void image() {
@@ -927,7 +905,7 @@ public final class PromiseTest {
         Due.same("from(0)", p.from(0), 1);
         Due.same("all as it was", p.digest(), kept);
         Due.same("it can be undone from there", p.undo(), 9);
-        sheet("undone", p);
+        Due.sheet("undone", p);
         p.undo();
         Due.same("from(0) again", p.from(0), 1);
         Due.same("the image stays as it was", p.digest(), kept);
@@ -940,9 +918,9 @@ public final class PromiseTest {
         p.table(3);
         p.image(0);
         p.from(1);
-        counts("the other image", p, 3, 8, 1, 1, 2, 1);
+        Due.counts("the other image", p, 3, 8, 1, 1, 2, 1);
         p.from(0);
-        counts("kept anew", p, 0, 3, 0, 0, 0, 1);
+        Due.counts("kept anew", p, 0, 3, 0, 0, 0, 1);
         PotatoPrints q = new PotatoPrints();
         Due.same("none was kept", q.from(0), PotatoPrints.NO);
         q.image(1);
@@ -952,7 +930,7 @@ public final class PromiseTest {
             Due.same("image(" + bad + ")", q.image(bad), PotatoPrints.BAD);
             Due.same("from(" + bad + ")", q.from(bad), PotatoPrints.BAD);
         }
-        statuses("image, from", q, 8, 2, 0);
+        Due.statuses("image, from", q, 8, 2, 0);
     }
 
     private static void status() {
@@ -960,7 +938,7 @@ public final class PromiseTest {
         Due.same("status(3)", p.status(3), -1);
         Due.same("status(-1)", p.status(-1), -1);
         Due.same("status(MOST)", p.status(MOST), -1);
-        statuses("they count as bad", p, 3, 0, 0);
+        Due.statuses("they count as bad", p, 3, 0, 0);
         p.cover(0, 9);
         p.which(0, 9);
         p.undo();
@@ -968,21 +946,21 @@ public final class PromiseTest {
         for (int i = 0; i < 9; i++) {
             p.want(0, 0);
         }
-        statuses("each by reason", p, 5, 2, 1);
+        Due.statuses("each by reason", p, 5, 2, 1);
         p.image(0);
         p.table(0);
         p.from(0);
-        statuses("neither table nor image takes them", p, 5, 2, 1);
+        Due.statuses("neither table nor image takes them", p, 5, 2, 1);
     }
 
     private static void count() {
         PotatoPrints p = busy();
         p.type('a');
-        counts("busy", p, 3, 8, 1, 1, 2, 1);
+        Due.counts("busy", p, 3, 8, 1, 1, 2, 1);
         for (int bad : new int[] {-1, 6, LEAST, MOST}) {
             Due.same("count(" + bad + ")", p.count(bad), PotatoPrints.BAD);
         }
-        statuses("count", p, 5, 0, 0);
+        Due.statuses("count", p, 5, 0, 0);
     }
 
     private static void digest() {

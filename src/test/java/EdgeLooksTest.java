@@ -24,6 +24,7 @@ public final class EdgeLooksTest {
         coverAtTheCorners();
         coverDoesNotWrapAround();
         coverTheLeastOfTwo();
+        paintDoesNotMatter();
         shrinksHourByHour();
         goneBehindHours();
         Due.end("EdgeLooksTest");
@@ -156,8 +157,8 @@ public final class EdgeLooksTest {
 
     // Promise 15: "how many PRINTS of a KIND, one behind the other from the first on, are DARK d (1 .. 9) at least".
     private static void fromOneAtTheLimits() {
-        PotatoPrints p = new PotatoPrints();
         for (int kind = 0; kind < 6; kind++) {
+            PotatoPrints p = new PotatoPrints();
             for (int paint = 0; paint <= 12; paint++) {
                 int dark = p.force(kind, paint, 0);
                 for (int d = 1; d <= 9; d++) {
@@ -436,6 +437,20 @@ public final class EdgeLooksTest {
         covers("upright, turned three times", q, 1, 332);
         q.want(6, 1);
         covers("upright, and another", q, 2, 15);
+    }
+
+    // "all of it coming there": whatever paint there is, it neither slides nor has holes.
+    private static void paintDoesNotMatter() {
+        for (int paint = 0; paint <= 12; paint++) {
+            PotatoPrints p = darkAt(0, 1, BAR);
+            p.dip(paint);
+            p.want(2, 1);
+            p.want(3, 1);
+            covers("by paint " + paint, p, 1, 12);
+            Due.same("hit by paint " + paint, p.hit(0, 0), 1);
+            Due.same("hit by paint " + paint + ", where", p.hit(0, 1), 10);
+            Due.same("looks by paint " + paint, p.looks(0, 0), 3);
+        }
     }
 
     // Promise 22: "in an HOUR each CELL that stays up goes, if one beside it (a column, a row) does not stay up, or there

@@ -13,6 +13,7 @@ public final class EdgeSeenTest {
         whichAtTheCorners();
         whichDoesNotWrapAround();
         whichNone();
+        paintDoesNotMatter();
         lookOfLikeOnesTheFirst();
         lookNone();
         bittenAtTheLastPlace();
@@ -136,6 +137,21 @@ public final class EdgeSeenTest {
         fits("nor both", q, 0, NONE);
     }
 
+    // "all of it coming there": whatever paint there is, it neither slides nor has holes.
+    private static void paintDoesNotMatter() {
+        for (int paint = 0; paint <= 12; paint++) {
+            PotatoPrints p = with(BAR);
+            p.dip(paint);
+            p.seen(2, 0, 1);
+            fits("by paint " + paint, p, 2, 1);
+            Due.same("look by paint " + paint, p.look(0), 1);
+            p.seen(3, 0, 0);
+            Due.same("bitten by paint " + paint, p.bitten(0, 2, 0, 0, 0), 4);
+            Due.same("it can be, by paint " + paint, p.bitten(0, 2, 0, 0, 1), 1);
+            Due.same("not one column less", p.bitten(0, 0, 0, 0, 1), 0);
+        }
+    }
+
     // "how many (0), the first (1; NONE)": where none fits, how many is 0.
     private static void whichNone() {
         PotatoPrints p = with(0);
@@ -175,6 +191,11 @@ public final class EdgeSeenTest {
         q.seen(0, 0, 0);
         Due.same("one is left: like everywhere", q.look(0), 0);
         Due.same("the one", q.which(0, 1), 1);
+        q.forget(1);
+        q.seen(2, 0, 1);
+        Due.same("one of two comes on the second cell", q.look(0), 1);
+        q.seen(1, 0, 1);
+        Due.same("one is left: like everywhere", q.look(0), 0);
         // With these three seen four prints are left; two of them come on 7, 7 too.
         q.forget(1);
         q.seen(6, 7, 1);

@@ -229,9 +229,12 @@ public final class PromiseTest {
         p.print(0, 0, 0, 1, 0);
         Due.sheet("nine prints", p, "99998765", "4");
         String row = "99998765";
-        for (int x = 8; x > 0; x--) {
+        for (int left = 8; left > 0; left--) {
             p.undo();
-            Due.sheet("all but " + x, p, row.substring(0, x));
+            for (int x = 0; x < 8; x++) {
+                Due.same(left + " left, column " + x, p.dark(x, 0), x < left ? row.charAt(x) - '0' : 0);
+            }
+            Due.same(left + " left", p.count(0), left);
         }
         Due.same("the first print stays", p.undo(), PotatoPrints.NO);
         Due.same("with its paint", p.count(1), 11);

@@ -24,6 +24,7 @@ public final class EdgeSeenTest {
         slipsNeverAndAlways();
         slipsAtTheEdges();
         slipsUntilThePaintIsGone();
+        slipsWithoutPaint();
         slipsOfKinds();
         slipsLeaveTheRest();
         sheetsByPrints();
@@ -382,13 +383,28 @@ public final class EdgeSeenTest {
     // "by PAINT as it is, and comes to be": without paint a print inks nothing.
     private static void slipsUntilThePaintIsGone() {
         long[] halves = {1, 2, 4, 8, 16, 32};
-        int[] takes = {1, 2, 1, 2, 1};
-        for (int kind = 0; kind < 4; kind++) {
+        int[] takes = {1, 2, 1, 2, 1, 2};
+        for (int kind = 0; kind <= 5; kind++) {
             for (int paint = 0; paint <= 8; paint++) {
                 PotatoPrints p = single(paint);
                 int inking = Math.min(5, (paint + takes[kind] - 1) / takes[kind]);
                 nearby(p, kind, 5, 5, 0, halves[inking] - 1, halves[inking]);
+                if (kind == 5) {
+                    nearby(p, kind, 5, 5, 2, halves[inking] - 1, halves[inking]);
+                }
                 Due.same("paint stays", p.count(1), paint);
+            }
+        }
+    }
+
+    // "inked (DARK above 0)": without paint no cell is, by the smear neither.
+    private static void slipsWithoutPaint() {
+        for (int kind = 0; kind <= 5; kind++) {
+            for (int c = 0; c <= 10; c += 5) {
+                PotatoPrints p = with(ALL_UP);
+                for (int cell = 0; cell < 64; cell++) {
+                    chance("no paint, kind " + kind + ", cell " + cell, p, new int[] {kind, 0, 2, 2, 5, c, cell}, 0, 1);
+                }
             }
         }
     }

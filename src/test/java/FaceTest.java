@@ -54,7 +54,11 @@ public final class FaceTest {
         methodsAreTheDocuments();
         fieldsAndConstructors();
         noOwnMethodBearsAPublicName();
+        classesKeepToTheLanguage();
         sourceKeepsToTheLanguage();
+        libraryIsWhatIsListed();
+        methodsStayShort();
+        objectsAreMadeOnce();
         Due.end("FaceTest");
     }
 
@@ -104,6 +108,13 @@ public final class FaceTest {
         }
     }
 
+    private static List<Class<?>> allClasses() {
+        List<Class<?>> all = new ArrayList<>(List.of(PotatoPrints.class.getDeclaredClasses()));
+        all.add(PotatoPrints.class);
+        return all;
+    }
+
+    // Rule 1, and rule 11's parameters.
     private static void noOwnMethodBearsAPublicName() {
         List<String> open = new ArrayList<>();
         for (Method m : PotatoPrints.class.getDeclaredMethods()) {
@@ -111,19 +122,81 @@ public final class FaceTest {
                 open.add(m.getName());
             }
         }
-        for (Class<?> inside : PotatoPrints.class.getDeclaredClasses()) {
-            for (Method m : inside.getDeclaredMethods()) {
-                Due.holds(m + " has a name of its own", !open.contains(m.getName()));
+        for (Class<?> one : allClasses()) {
+            for (Method m : one.getDeclaredMethods()) {
+                boolean isOfTheFace = one == PotatoPrints.class && Modifier.isPublic(m.getModifiers());
+                Due.holds(m + " has a name of its own", isOfTheFace || !open.contains(m.getName()));
                 Due.holds(m + " takes seven at most", m.getParameterCount() <= 7);
             }
         }
     }
 
+    // Rule 5: no static state; rule 11: some twelve classes, some twenty fields beside constants.
+    private static void classesKeepToTheLanguage() {
+        List<Class<?>> constants = List.of(int.class, long.class, boolean.class, char.class, String.class,
+                int[].class, long[].class, char[].class, byte[].class);
+        Due.holds("twelve classes at most", allClasses().size() <= 12);
+        for (Class<?> one : allClasses()) {
+            int fields = 0;
+            for (Field f : one.getDeclaredFields()) {
+                if (Modifier.isStatic(f.getModifiers())) {
+                    Due.holds(f + " is a constant", Modifier.isFinal(f.getModifiers()) && constants.contains(f.getType()));
+                } else {
+                    fields++;
+                }
+            }
+            Due.holds(one + " has twenty fields at most", fields <= 20);
+        }
+    }
+
+    private static String code() throws Exception {
+        String source = Files.readString(Path.of("src/main/java/PotatoPrints.java"));
+        return source.replaceAll("(?s)/\\*.*?\\*/", " ").replaceAll("//[^\n]*", " ");
+    }
+
+    // Rule 4, of what the class uses: of Math, Long and Integer only what is over int and long, of Arrays only three.
+    private static void libraryIsWhatIsListed() throws Exception {
+        List<String> listed = List.of("Math.min", "Math.max", "Math.abs", "Math.floorDiv", "Math.floorMod", "Long.bitCount",
+                "Long.compare", "Long.numberOfTrailingZeros", "Integer.bitCount", "Integer.compare", "System.arraycopy",
+                "Arrays.copyOf", "Arrays.copyOfRange", "Arrays.fill");
+        Matcher used = Pattern.compile("\\b(Math|Long|Integer|System|Arrays|String|Character)\\.\\w+").matcher(code());
+        while (used.find()) {
+            Due.holds(used.group() + " is listed", listed.contains(used.group()));
+        }
+    }
+
+    // Rule 11: "Methods stay short (some sixty lines)". A method ends where a brace stands as deep as it begins.
+    private static void methodsStayShort() throws Exception {
+        String[] lines = Files.readString(Path.of("src/main/java/PotatoPrints.java")).split("\n");
+        int methods = 0;
+        for (int at = 0; at < lines.length; at++) {
+            Matcher head = Pattern.compile("( +)(public|private) [^=;]*\\w+\\(.*").matcher(lines[at]);
+            if (head.matches()) {
+                int end = at;
+                while (end < lines.length && !lines[end].equals(head.group(1) + "}")) {
+                    end++;
+                }
+                Due.holds(lines[at].strip() + " has sixty lines at most", end - at < 60);
+                methods++;
+            }
+        }
+        Due.holds("the methods are found", methods >= 36);
+    }
+
+    // The room that all calls live in: objects are made with the object itself, and by image, which then keeps them.
+    private static void objectsAreMadeOnce() throws Exception {
+        for (String line : code().split("\n")) {
+            boolean isField = line.strip().startsWith("private final ");
+            boolean isImage = line.strip().equals("kept = new Table();");
+            Due.holds("made where? " + line.strip(), !line.matches(".*\\bnew\\b.*") || isField || isImage);
+        }
+    }
+
     private static void sourceKeepsToTheLanguage() throws Exception {
         String source = Files.readString(Path.of("src/main/java/PotatoPrints.java"));
-        String code = source.replaceAll("(?s)/\\*.*?\\*/", " ").replaceAll("//[^\n]*", " ");
+        String code = code();
         String[] ruledOut = {"throw", "throws", "try", "catch", "finally", "synchronized", "assert", "package", "protected",
-            "Exact", "Random", "currentTimeMillis", "nanoTime", "Object", "hashCode", "toString", "equals", "instanceof"};
+            "\\w*Exact", "Random", "currentTimeMillis", "nanoTime", "Object", "hashCode", "toString", "equals", "instanceof"};
         for (String word : ruledOut) {
             Due.holds("no " + word, !Pattern.compile("\\b" + word + "\\b").matcher(code).find());
         }
@@ -133,9 +206,6 @@ public final class FaceTest {
         Matcher imports = Pattern.compile("import ([^;]+);").matcher(code);
         while (imports.find()) {
             Due.holds("import of " + imports.group(1), imports.group(1).equals("java.util.Arrays"));
-        }
-        for (Method m : PotatoPrints.class.getDeclaredMethods()) {
-            Due.holds(m + " takes seven at most", m.getParameterCount() <= 7);
         }
     }
 }
